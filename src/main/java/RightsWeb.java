@@ -622,7 +622,7 @@ public final class RightsWeb {
 
         private void surveyJoin(int place, int first, int second) {
             joined[place] |= joined[first];
-            taken[place] |= taken[first] | taken[second];
+            taken[place] = taken[first] | taken[second];
             if (sort[place] == LESS) {
                 taken[place] |= joined[second];
             } else {
@@ -1030,7 +1030,7 @@ public final class RightsWeb {
             for (int i = first[spot]; i < first[spot + 1]; i++) {
                 int p = counting[i];
                 int club = ledger.clubSpot[p];
-                if (ledger.end[p] != 0 == ending && ledger.thingTold[p] == NONE) {
+                if ((ledger.end[p] != 0) == ending && ledger.thingTold[p] == NONE) {
                     all |= club == NONE ? 1L << ledger.user[p] : in[club];
                 }
             }
@@ -1161,7 +1161,7 @@ public final class RightsWeb {
                 int thing = ledger.thingTold[p];
                 return thing == NONE ? FAR : cost[thing * RELATIONS + rules.y[place]];
             }
-            if (ledger.end[p] != 0 != (rules.sort[place] == UNTIL)) {
+            if ((ledger.end[p] != 0) != (rules.sort[place] == UNTIL)) {
                 return FAR;
             }
             int club = ledger.clubSpot[p];

@@ -52,15 +52,18 @@ public final class PromiseTests {
         whoByRules();
         whoByRings();
         whoByLessInLayers();
+        whoByLessOverAllKnots();
         whoByEmptyPlaces();
         whoByTicksAndTurns();
         reach();
         why();
         whyByJoins();
+        whyBesidesLess();
         reason();
         reasonTies();
         reasonOfAll();
         reasonOfManyAlls();
+        reasonOfWaitingAlls();
         reasonAlongAll();
         without();
         would();
@@ -261,7 +264,11 @@ public final class PromiseTests {
         due("holds(0)", web.holds(0), ALSO);
         due("a LESS in the second of a LESS", web.rule(1, LESS, 0, 0), RING);
         due("asks(1, 0) as it was", web.asks(1, 0), 1);
-        due("status(RING)", web.status(RING), 8);
+        web.rule(4, THROUGH, 3, 6);
+        due("a THROUGH back", web.rule(4, THROUGH, 7, 0), RING);
+        due("asks(4, 0) as it was", web.asks(4, 0), 3);
+        due("asks(4, 1) as it was", web.asks(4, 1), 6);
+        due("status(RING)", web.status(RING), 9);
         end("promise 3: rule, rings");
     }
 
@@ -940,6 +947,40 @@ public final class PromiseTests {
         end("promise 23: who, a LESS above a LESS");
     }
 
+    private static void whoByLessOverAllKnots() {
+        // each relation of each kind takes the next one away, those of the last kind's last one being in
+        RightsWeb web = new RightsWeb();
+        web.rule(0, UNTIL, 0, 0);
+        web.rule(1, HERE, 0, 0);
+        web.rule(27, LESS, 0, 1);
+        for (int r = 0; r < 7; r++) {
+            web.rule(10 + r, ALSO, r + 1, 0);
+            web.rule(20 + r, LESS, 0, 10 + r);
+        }
+        for (int knot = 0; knot < 48; knot++) {
+            if (knot % 8 == 0) {
+                web.thing(knot / 8);
+            }
+            due("relate " + knot, web.relate(knot / 8, knot % 8, 20 + knot % 8), 1);
+        }
+        for (int knot = 0; knot < 48; knot++) {
+            web.write(knot / 8, knot % 8, 3, 9);
+            if (knot % 16 == 15) {
+                web.commit();
+            }
+        }
+        for (int thing = 0; thing < 5; thing++) {
+            web.write(thing, 7, 1010 + 10 * thing, 0);
+        }
+        due("commit()", web.commit(), 4);
+        for (int knot = 0; knot < 48; knot++) {
+            due("who " + knot, web.who(knot / 8, knot % 8, 4), knot % 2 == 1 ? bits(3) : 0);
+        }
+        web.write(5, 7, 1000, 0);
+        due("the last leads to the first", web.commit(), RING);
+        end("promise 23: who, a LESS over all kinds and relations");
+    }
+
     private static void whoByEmptyPlaces() {
         RightsWeb web = plain(1);
         web.write(0, 0, 1, 0);
@@ -1018,6 +1059,11 @@ public final class PromiseTests {
         due("from -1", web.reach(0, 0, 9, -1, 1), BELOW);
         due("from LOW", web.reach(0, 0, 9, LOW, 1), BELOW);
         due("NONE is no refusal", web.status(BEYOND), 4);
+        RightsWeb full = plain(40);
+        turn(full, 39, 0, 9);
+        due("of 40 from the last on", full.reach(0, 0, 9, 39, 1), 39);
+        due("of 40 from behind it on", full.reach(0, 0, 9, 40, 1), NONE);
+        due("of 40 nobody", full.reach(0, 0, 8, 0, 1), NONE);
         end("promise 24: reach");
     }
 
@@ -1091,6 +1137,30 @@ public final class PromiseTests {
             due("person 4 by place " + places[i], web.why(0, 0, 4, 1), of4[i]);
         }
         end("promise 25: why, by joins");
+    }
+
+    private static void whyBesidesLess() {
+        // taken away by the LESS, the person is in by the dearer way alone
+        RightsWeb web = plain(2);
+        web.rule(10, ALSO, 1, 0);
+        web.rule(11, ALSO, 2, 0);
+        web.rule(12, LESS, 10, 11);
+        web.rule(13, ALSO, 3, 0);
+        web.rule(14, ANY, 12, 13);
+        web.relate(0, 7, 14);
+        web.write(0, 1, 5, 0);
+        web.write(0, 2, 5, 0);
+        web.write(0, 3, 1014, 0);
+        web.write(1, 4, 5, 0);
+        web.write(1, 1, 5, 0);
+        web.write(1, 3, 1014, 0);
+        web.commit();
+        due("why", web.why(0, 7, 5, 1), 3);
+        due("reason(0)", web.reason(0), 2);
+        due("reason(1)", web.reason(1), 3);
+        due("why, where nobody is taken away", web.why(1, 7, 5, 1), 2);
+        due("reason(0)", web.reason(0), 4);
+        end("promise 25: why, besides a LESS");
     }
 
     private static void reason() {
@@ -1243,6 +1313,32 @@ public final class PromiseTests {
         due("58 of 58", web.reason(57), 1);
         due("no 59th", web.reason(58), BEYOND);
         end("promise 26: reason, the first 60");
+    }
+
+    private static void reasonOfWaitingAlls() {
+        // 61 second ones wait at once, of which 59 come to be told
+        RightsWeb web = plain(1);
+        web.write(0, 1, 5, 0);
+        web.write(0, 2, 5, 0);
+        web.write(0, 4, 5, 0);
+        web.commit();
+        web.rule(0, HERE, 0, 0);
+        web.relate(0, 4, 0);
+        web.rule(1, ALSO, 4, 0);
+        web.rule(2, ALSO, 2, 0);
+        for (int place = 3; place < 64; place++) {
+            web.rule(place, ALL, place == 3 ? 0 : place == 34 ? 2 : place - 1, place % 3 == 1 ? 1 : 0);
+        }
+        web.relate(0, 2, 33);
+        web.relate(0, 1, 63);
+        due("why", web.why(0, 1, 5, 1), 3);
+        due("reason(0)", web.reason(0), 1);
+        for (int i = 1; i < 60; i++) {
+            int place = i + 2;
+            due("reason(" + i + ")", web.reason(i), place % 3 == 1 ? 2 : place < 34 ? 1 : 0);
+        }
+        due("reason(60)", web.reason(60), BEYOND);
+        end("promise 26: reason, with many that wait");
     }
 
     private static void reasonAlongAll() {
