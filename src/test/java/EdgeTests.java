@@ -354,6 +354,15 @@ public final class EdgeTests {
             "commit = 3", "change 0 0 = 0", "change 0 1 = 2", "change 0 2 = 1", "change 0 3 = NONE", "change 1 0 = 2",
             "change 1 1 = 1", "change 1 2 = NONE", "change 2 0 = 2", "change 2 1 = 1", "change 2 2 = NONE",
             "change 3 0 = NONE", "change 0 2147483647 = NONE", "change 3 2147483647 = NONE"));
+        Lines most = Lines.of("thing 0", "rule 0 1 0 0", "relate 0 0 0").times(20, "write 0 0 # 3").then("commit = 1");
+        for (int t = 1; t < 40; t++) {
+            most.then("undo " + t + " = 20", "commit = " + (t + 1));
+        }
+        test("21: the most that there can be: 400 PAIRS, each written and struck", most.then("count 4 = 400",
+            "inForce 40 = 0", "inForce 39 = 20", "change 0 799 = 761", "change 0 780 = 799", "change 0 800 = NONE",
+            "change 39 0 = 799", "change 39 19 = 761", "change 39 20 = NONE", "change 38 19 = 798", "pair 399 5 = 40",
+            "pair 399 3 = 3", "undo 40 = 20", "commit = FULL", "would 0 0 true = 0 by FULL", "forget = 20",
+            "strike 0 0 0", "commit = NO", "forget", "commit = 41", "differ 0 39 = 20", "differ 0 41 = 0"));
         test("21: BEYOND: t is not 0 .. latest; BELOW: i", Lines.of("thing 0", "write 0 0 1 0", "commit = 1",
             "change 0 0 = 0").refuses("change # 0", "BEYOND", -1, 2, LOW, HIGH).refuses("change 0 #", "BELOW", -1, LOW)
             .refuses("change 1 #", "BELOW", -1, LOW).refuses("change 2 #", "BEYOND", -1, LOW).refuses("change -1 #",
@@ -392,6 +401,9 @@ public final class EdgeTests {
             LOW, HIGH).refuses("reach 0 0 0 # 1", "BELOW", -1, LOW).refuses("reach 6 0 0 # 1", "BEYOND", -1, LOW)
             .refuses("reach 0 8 0 # 1", "BEYOND", -1).refuses("reach 0 0 40 # 1", "BEYOND", -1)
             .refuses("reach 0 0 0 # 2", "BEYOND", -1));
+        test("24: of all 40 THINGS", Lines.plain(40).then("write 39 0 0 0", "write 39 7 39 0", "commit = 1",
+            "reach 0 7 39 0 1 = 39", "reach 0 7 39 39 1 = 39", "reach 0 7 39 40 1 = NONE", "reach 0 7 38 0 1 = NONE",
+            "reach 0 0 39 39 1 = NONE", "reach 5 7 39 0 1 = NONE", "list 0 7 38 1 = 0", "list 0 7 39 1 = 1"));
         test("24: where there is no THING", Lines.of("reach 0 0 0 0 0 = NONE", "reach 5 7 39 2147483647 0 = NONE",
             "reach 0 0 0 -1 0 = BELOW"));
     }
@@ -474,7 +486,8 @@ public final class EdgeTests {
         for (int i = 0; i < 60; i++) {
             alls.then("reason " + i + " = " + told[i]);
         }
-        test("26: the first 60 are told, of many ALLS", alls.then("reason 60 = BEYOND", "without 0 = 0",
+        test("26: the first 60 are told, of many ALLS", alls.then("reason 60 = BEYOND", "why 0 1 5 1 = 1",
+            "reason 0 = 1", "reason 1 = BEYOND", "why 0 0 5 1 = 2", "reason 59 = " + told[59], "without 0 = 0",
             "without 1 = 0"));
     }
 

@@ -30,6 +30,8 @@ public final class TermTests {
         ringsOverLess();
         ringsOverLessByClubs();
         ringsOverLessByActs();
+        ringsByNoClub();
+        ringsThatWereRefused();
         ends();
         oneInForce();
         turns();
@@ -43,6 +45,7 @@ public final class TermTests {
         theTick();
         costs();
         costsOfJoins();
+        costsByOtherSorts();
         reasons();
         reasonsOfJoins();
         refusalsInOrder();
@@ -240,6 +243,10 @@ public final class TermTests {
         test("1: THROUGH x y: each THING that a PAIR (with or without an END) tells", pairsOfEachSort()
             .then("rule 63 3 0 3", "relate 0 7 63", "who 0 7 1 = {21 22}", "tick 9", "who 0 7 1 = {21}",
             "who 1 7 1 = 0", "rule 63 3 3 0", "who 0 7 1 = 0", "relate 0 3 -1", "rule 63 3 0 3", "who 0 7 1 = 0"));
+        test("1: THROUGH asks the PAIRS of this THING in RELATION x alone", Lines.plain(5).then("rule 10 3 2 5",
+            "relate 0 0 10", "write 0 1 102 0", "write 0 2 101 0", "write 0 3 103 0", "write 1 2 104 0",
+            "write 1 5 1 0", "write 2 5 2 0", "write 3 5 3 0", "write 4 5 4 0", "write 1 4 9 0", "write 1 6 9 0",
+            "commit = 1", "who 0 0 1 = {1}", "who 1 0 1 = {4}", "who 2 0 1 = 0"));
         test("1: THROUGH asks the PAIRS in RELATION x, whatever its PLACE", Lines.of("thing 0", "rule 0 0 0 0",
             "rule 1 3 2 3", "relate 0 0 1", "relate 0 3 0", "write 0 2 100 0", "write 0 3 5 0", "write 0 2 6 0",
             "write 0 2 1003 0", "commit = 1", "who 0 2 1 = 0", "who 0 0 1 = {5}"));
@@ -357,6 +364,30 @@ public final class TermTests {
             "write 0 0 1000 0", "commit = 1", "strike 0 1 1000", "commit = NO", "failed = 100"));
     }
 
+    private static void ringsByNoClub() {
+        for (int kind = 0; kind < 6; kind++) {
+            Lines lines = Lines.of("thing " + kind, "rule 0 0 0 0", "rule 1 1 0 0", "rule 2 4 0 1", "rule 60 6 2 2",
+                "rule 4 3 7 0");
+            for (int knot = 0; knot < 48; knot++) {
+                lines.then("relate " + knot / 8 + " " + knot % 8 + " 4 = 1");
+            }
+            test("1: no RING by PAIRS that tell a PERSON or a THING, KIND " + kind, lines.then("write 0 0 0 0",
+                "write 0 0 39 9", "write 0 0 100 0", "commit = 1", "relate " + kind + " 0 60 = 1", "who 0 0 1 = 0",
+                "rule 60 6 2 50 = 1", "who 0 0 1 = {0 39}", "rule 60 6 2 2 = 1", "write 0 0 1001 0", "commit = RING"));
+        }
+    }
+
+    private static void ringsThatWereRefused() {
+        Lines base = lessOfRelationOne().then("rule 40 0 0 0", "rule 10 2 3 0", "rule 11 2 0 0", "rule 12 4 10 11",
+            "rule 13 2 2 0", "relate 0 2 12", "relate 0 3 13", "write 0 0 5 0", "write 0 1 5 0", "write 0 0 6 0",
+            "commit = 1");
+        String[] looks = {"who 0 0 1 = {6}", "who 0 1 1 = {5}", "who 0 2 1 = {6}", "who 0 3 1 = {6}",
+            "why 0 3 5 1 = MISSING", "why 0 3 6 1 = 3"};
+        test("1: a RING that was refused leaves nothing, nor is anybody in by it", base.then(looks)
+            .then("rule 40 2 0 0 = RING").then(looks).then("relate 0 1 3 = RING").then(looks).then("write 0 1 1000 0",
+            "commit = RING").then(looks).then("would 0 2 true = 0 by RING").then(looks));
+    }
+
     // ---- 2: pairs, turns
 
     private static void ends() {
@@ -415,6 +446,11 @@ public final class TermTests {
             "write 0 0 1 3", "commit = 1", "when 0 0 1 false", "strike 0 0 1", "commit = NO", "failed = 0", "forget",
             "tick 3", "when 0 0 1 true", "when 0 0 2 false", "when 0 1 1 false", "strike 0 0 1", "commit = 2",
             "when 0 0 1 true", "commit = NO", "failed = 0", "forget", "when 0 0 1 false", "commit = 3"));
+        test("2: CONDITIONS: of this THING, RELATION and USER alone", Lines.of("thing 0", "thing 0", "write 1 7 1010 0",
+            "commit = 1", "when 1 7 1010 false", "commit = NO", "failed = 0", "forget", "when 0 7 1010 true",
+            "commit = NO", "failed = 0", "forget", "when 1 6 1010 true", "commit = NO", "forget", "when 1 7 1000 true",
+            "commit = NO", "forget", "when 1 7 1010 true", "when 0 7 1010 false", "when 1 6 1010 false",
+            "when 1 7 1000 false", "when 1 7 10 false", "when 1 7 101 false", "commit = 2"));
     }
 
     private static void firstThatFails() {
@@ -496,6 +532,31 @@ public final class TermTests {
             "why 0 0 5 1 = 3", "rule 63 5 50 10", "why 0 0 5 1 = MISSING"));
     }
 
+    private static void costsByOtherSorts() {
+        test("3: COST by HERE, UNTIL: of PAIRS that have no END, that have one, alone", Lines.plain(2)
+            .then("rule 63 0 0 0", "relate 0 0 63", "write 0 0 5 9", "write 0 0 1010 0", "write 0 0 6 0",
+            "write 0 0 1011 9", "write 1 0 5 0", "write 1 1 6 0", "write 0 0 100 0", "commit = 1",
+            "why 1 0 5 1 = 1", "why 0 0 5 1 = 2", "reason 0 = 1",
+            "why 0 0 6 1 = 1", "reason 0 = 2", "rule 63 1 0 0", "relate 0 0 63", "why 0 0 5 1 = 1", "reason 0 = 0",
+            "why 0 0 6 1 = 2", "reason 0 = 3"));
+        test("3: COST by THROUGH: of PAIRS that tell a THING alone", Lines.plain(3).then("rule 63 3 2 1",
+            "relate 0 0 63", "write 0 2 5 0", "write 0 2 1011 0", "write 0 2 1021 9", "write 0 2 101 0",
+            "write 0 2 102 9", "write 1 1 1021 0", "write 2 1 5 0", "commit = 1", "why 0 0 5 1 = 2", "reason 0 = 4",
+            "reason 1 = 6", "tick 9", "why 0 0 5 1 = 3", "reason 0 = 3", "reason 1 = 5", "reason 2 = 6"));
+        Lines none = Lines.plain(1).then("rule 10 2 1 0", "relate 0 0 63", "write 0 1 5 0", "commit = 1");
+        for (String nothing : new String[] {"empty 50", "name 50 0"}) {
+            none.then(nothing, "rule 63 4 50 10", "why 0 0 5 1 = 2", "reason 0 = 0", "rule 63 4 10 50",
+                "why 0 0 5 1 = 2", "reason 0 = 0", "rule 63 6 10 50", "why 0 0 5 1 = 2", "rule 63 5 50 10",
+                "why 0 0 5 1 = MISSING", "rule 63 6 50 10", "why 0 0 5 1 = MISSING");
+        }
+        test("3: COST where a PLACE that is asked holds no RULE", none);
+        test("3: COST by LESS: at each THING who is taken away there", Lines.plain(2).then("rule 10 2 1 0",
+            "rule 11 2 2 0", "rule 12 6 10 11", "rule 13 2 3 0", "rule 14 4 12 13", "relate 0 0 14", "write 0 1 5 0",
+            "write 0 2 5 0", "write 0 3 1004 0", "write 0 4 5 0", "write 1 1 5 0", "write 1 3 5 0", "commit = 1",
+            "why 0 0 5 1 = 3", "reason 0 = 2", "reason 1 = 3", "why 1 0 5 1 = 2", "reason 0 = 4", "strike 0 2 5",
+            "write 1 2 5 0", "commit = 2", "why 0 0 5 2 = 2", "reason 0 = 0", "why 1 0 5 2 = 2", "reason 0 = 5"));
+    }
+
     private static void reasons() {
         test("3: of PAIRS by which it is the same the one with the least number", Lines.plain(4)
             .then("write 3 0 1020 0", "write 3 0 1010 0", "write 3 0 1000 0", "write 0 0 5 0", "write 1 0 5 0",
@@ -519,6 +580,11 @@ public final class TermTests {
             "rule 63 5 11 10", "why 0 0 5 1 = 2", "reason 0 = 0", "reason 1 = 1", "rule 63 5 10 10", "why 0 0 5 1 = 2",
             "reason 0 = 1", "reason 1 = 1", "reason 2 = BEYOND", "rule 63 6 11 50", "why 0 0 5 1 = 2", "reason 0 = 0",
             "reason 1 = BEYOND"));
+        test("3: of ALL those of x, then those of y, where both lead on to ALLS of other THINGS", Lines.plain(3)
+            .then("rule 10 2 1 0", "rule 11 2 2 0", "rule 12 5 10 11", "relate 0 0 12", "write 0 1 1010 0",
+            "write 0 2 1020 0", "write 1 1 5 0", "write 1 2 5 0", "write 2 1 5 0", "write 2 2 5 0", "commit = 1",
+            "why 0 0 5 1 = 4", "reason 0 = 0", "reason 1 = 2", "reason 2 = 3", "reason 3 = 1", "reason 4 = 4",
+            "reason 5 = 5", "reason 6 = BEYOND"));
         test("3: of ALL each of its own least COST", Lines.plain(1).then("rule 10 2 1 0", "rule 11 2 2 0",
             "rule 12 2 3 0", "rule 13 4 10 12", "rule 63 5 11 13", "relate 0 0 63", "write 0 1 1004 0",
             "write 0 2 1005 0", "write 0 3 5 0", "write 0 4 5 0", "write 0 5 1004 0", "commit = 1", "why 0 0 5 1 = 4",
