@@ -1,4 +1,6 @@
 import java.io.IOException;
+import java.lang.reflect.Constructor;
+import java.lang.reflect.Executable;
 import java.lang.reflect.Field;
 import java.lang.reflect.Method;
 import java.lang.reflect.Modifier;
@@ -6,6 +8,7 @@ import java.nio.file.Files;
 import java.nio.file.Path;
 import java.util.List;
 import java.util.Set;
+import java.util.StringJoiner;
 import java.util.TreeSet;
 import java.util.regex.Matcher;
 import java.util.regex.Pattern;
@@ -23,6 +26,7 @@ public final class SourceTests {
         String source = Files.readString(Path.of("src/main/java/RightsWeb.java"));
         String code = source.replaceAll("(?s)/\\*.*?\\*/", "").replaceAll("//[^\n]*", "");
         words(code);
+        face(Files.readString(Path.of("../shared/DOC.md")));
         members();
         methods(List.of(code.split("\n")));
         CHECKS.exit();
@@ -46,6 +50,50 @@ public final class SourceTests {
         CHECKS.isTrue("the library is used by " + used, used.isEmpty());
         CHECKS.isTrue("no package", !code.contains("package "));
         CHECKS.end("the language: words and library");
+    }
+
+    /** The lines of the document's face and the class's members that are not private must be the same. */
+    private static void face(String document) {
+        Set<String> due = new TreeSet<>();
+        String block = document.substring(document.indexOf("public final class RightsWeb {"));
+        for (String line : block.substring(block.indexOf('\n'), block.indexOf("\n}")).split(";")) {
+            due.add(line.strip().replaceAll("(int|boolean|long) \\w+([,)])", "$1$2"));
+        }
+        due.remove("");
+        Set<String> is = new TreeSet<>();
+        for (Constructor<?> c : RightsWeb.class.getDeclaredConstructors()) {
+            is.add(Modifier.toString(c.getModifiers()) + " RightsWeb" + types(c));
+        }
+        for (Method m : RightsWeb.class.getDeclaredMethods()) {
+            if (!Modifier.isPrivate(m.getModifiers())) {
+                is.add(Modifier.toString(m.getModifiers()) + " " + m.getReturnType() + " " + m.getName() + types(m));
+            }
+        }
+        for (Field f : RightsWeb.class.getDeclaredFields()) {
+            if (!Modifier.isPrivate(f.getModifiers())) {
+                is.add(Modifier.toString(f.getModifiers()) + " " + f.getType() + " " + f.getName() + " = " + valueOf(f));
+            }
+        }
+        CHECKS.isTrue("the document's face is read: " + due.size(), due.contains("public long who(int, int, int)"));
+        CHECKS.isTrue("the face is " + is + ", due is " + due, is.equals(due));
+        CHECKS.isTrue("public and final", Modifier.toString(RightsWeb.class.getModifiers()).equals("public final"));
+        CHECKS.end("the language: the face is the document's, and no other");
+    }
+
+    private static String types(Executable e) {
+        StringJoiner types = new StringJoiner(", ", "(", ")");
+        for (Class<?> c : e.getParameterTypes()) {
+            types.add(c.getName());
+        }
+        return types.toString();
+    }
+
+    private static String valueOf(Field f) {
+        try {
+            return String.valueOf(f.get(null));
+        } catch (IllegalAccessException | NullPointerException e) {
+            return "no constant";
+        }
     }
 
     private static void members() {
