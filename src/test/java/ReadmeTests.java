@@ -11,8 +11,6 @@ import java.util.Set;
 import java.util.TreeSet;
 import java.util.regex.Matcher;
 import java.util.regex.Pattern;
-import javax.tools.JavaCompiler;
-import javax.tools.ToolProvider;
 
 /** That README.md holds: its example answers what its comments say, and what it names is there. */
 public final class ReadmeTests {
@@ -97,9 +95,7 @@ public final class ReadmeTests {
         Files.createDirectories(BUILD);
         Path file = BUILD.resolve("Example.java");
         Files.writeString(file, code);
-        JavaCompiler javac = ToolProvider.getSystemJavaCompiler();
-        String classes = System.getProperty("java.class.path");
-        int refused = javac.run(null, System.out, System.out, "-cp", classes, "-d", BUILD.toString(), file.toString());
+        int refused = compile(file);
         CHECKS.due("compiling the example", refused, 0);
         if (refused != 0) {
             return;
@@ -108,6 +104,17 @@ public final class ReadmeTests {
             loader.loadClass("Example").getMethod("run", long[].class).invoke(null, got);
         } catch (ClassNotFoundException | NoSuchMethodException | IllegalAccessException | InvocationTargetException e) {
             CHECKS.isTrue("the example runs: " + e, false);
+        }
+    }
+
+    private static int compile(Path file) throws IOException {
+        String classes = System.getProperty("java.class.path");
+        Process javac = new ProcessBuilder("javac", "-cp", classes, "-d", BUILD.toString(), file.toString()).inheritIO()
+            .start();
+        try {
+            return javac.waitFor();
+        } catch (InterruptedException e) {
+            return 1;
         }
     }
 
